@@ -1,0 +1,46 @@
+/** What the tests share: an answer is compared, or the exception that is due is awaited. */
+final class Check {
+    static final Class<?> INDEX = IndexOutOfBoundsException.class;
+    static final Class<?> ARGUMENT = IllegalArgumentException.class;
+    static final Class<?> STATE = IllegalStateException.class;
+
+    interface Call {
+        Object run();
+    }
+
+    private static int wrong = 0;
+
+    private Check() {
+    }
+
+    static void due(String what, long got, long want) {
+        if (got != want) {
+            wrong++;
+            System.out.println(what + " answered " + got + ", due is " + want);
+        }
+    }
+
+    static void due(String what, boolean got, boolean want) {
+        due(what, got ? 1 : 0, want ? 1 : 0);
+    }
+
+    static void refused(String what, Class<?> want, Call call) {
+        String got;
+        try {
+            got = "the answer " + call.run();
+        } catch (RuntimeException e) {
+            if (e.getClass() == want && e.getMessage() == null) {
+                return;
+            }
+            got = e.toString();
+        }
+        wrong++;
+        System.out.println(what + " ended with " + got + ", due is " + want.getSimpleName());
+    }
+
+    static void end() {
+        if (wrong > 0) {
+            System.exit(1);
+        }
+    }
+}
