@@ -1149,8 +1149,12 @@ public final class Ropewalk {
             if (old != null && i >= 0 && i < old.size()) {
                 old.remove(i);
             }
-            stay.leaveLocker();
-            stay.isByCustoms = false;
+            if (stay.locker != null) {
+                stay.locker.change(stay.compartment, 1);
+            }
+            stay.locker = null;
+            stay.compartment = 0;
+            stay.code = 0;
             stay.kind = kind;
             stay.number = at;
             stay.depot = depot;
@@ -1189,15 +1193,6 @@ public final class Ropewalk {
         int code = 0;
         boolean isByCustoms = false;
         int stop = 0;
-
-        void leaveLocker() {
-            if (locker != null) {
-                locker.change(compartment, 1);
-            }
-            locker = null;
-            compartment = 0;
-            code = 0;
-        }
     }
 
     private static final class Van {

@@ -264,6 +264,7 @@ public final class AskTest {
     private static void way() {
         Ropewalk x = net(false);
         x.parcel(0, 0, 0, 1, 1, false);
+        Check.due("40 by its first scan", x.way(0, 0), 0);
         x.hour(4);
         x.lose(0);
         x.find(0, 0);
@@ -297,6 +298,9 @@ public final class AskTest {
         Check.due("41 quicker than the lane", x.wrong(1), 0);
         x.lane(0, 1, 5, false);
         Check.due("41 a slower lane", x.wrong(1), 0);
+        x.lane(0, 2, 1, false);
+        x.lane(2, 1, 1, false);
+        Check.due("41 lanes of other depots", x.wrong(1), 0);
         x.lane(0, 1, 2, false);
         Check.due("41 the quickest lane", x.wrong(1), Ropewalk.NONE);
         Check.refused("41 parcel", Check.INDEX, () -> x.wrong(2));
@@ -418,6 +422,14 @@ public final class AskTest {
         x.van(1, 9, 9);
         Check.due("44 not the one ahead", x.foreseen(0), 10);
         Check.due("44 comes at 15", x.foreseen(1), 33);
+        Ropewalk y = net(false);
+        for (int i = 0; i < 3; i++) {
+            y.van(1, 9, 9 + i);
+        }
+        y.timetable(0, 1, 1, 7, 1, 1);
+        y.hour(2);
+        y.parcel(0, 0, 0, 1, 1, false);
+        Check.due("44 the departure at 8 behind the one at 1", y.foreseen(0), 11);
     }
 
     private static void foreseenHalves() {

@@ -325,6 +325,7 @@ public final class EventTest {
         Check.due("23 its compartment is free", x.free(0, 3), 4);
         Check.refused("23 not twice", Check.STATE, () -> x.fetch(0, 1069));
         Check.due("23 the other one", x.fetch(0, 1032), 0);
+        Check.refused("23 those that left have no code", Check.STATE, () -> x.fetch(0, 0));
         sameCode();
     }
 

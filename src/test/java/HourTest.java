@@ -300,6 +300,18 @@ public final class HourTest {
         x.hour(9);
         Check.due("16 the second waits behind the first", x.onVan(0), 2);
         Check.due("16 both", x.hour(1), 2);
+        Ropewalk y = new Ropewalk();
+        y.address(0, 0);
+        y.address(0, 27);
+        y.address(0, 0);
+        y.van(0, 9, 8);
+        for (int i = 0; i < 3; i++) {
+            y.parcel(0, i, 0, i, 1, true);
+            y.promise(i, i == 0 ? 10 : 0, 24, 100);
+        }
+        y.hour(9);
+        Check.due("16 the minutes 0 and 59 of the hour 10", y.hour(1), 2);
+        Check.due("16 the minute 118", y.hour(1), 1);
     }
 
     private static int handedAt(int start, int from, int to) {

@@ -41,6 +41,11 @@ public final class TellTest {
         Check.refused("9 from above", Check.ARGUMENT, () -> x.away(a, 25, 25));
         Check.refused("9 to", Check.ARGUMENT, () -> x.away(a, 5, 4));
         Check.refused("9 to above", Check.ARGUMENT, () -> x.away(a, 5, 25));
+        Ropewalk y = new Ropewalk();
+        y.van(0, 1, 0);
+        y.address(0, 0);
+        y.parcel(0, 0, 0, 0, 1, false);
+        Check.due("9 at home in the hour 0 at first", y.hour(24), 1);
         Check.due("9 met ahead of it", metAt(7, 8, 9), 1);
         Check.due("9 failed in it", metAt(8, 8, 9), 0);
         Check.due("9 met when it ends", metAt(9, 8, 9), 1);
@@ -82,6 +87,9 @@ public final class TellTest {
         Check.refused("10 size above", Check.ARGUMENT, () -> x.parcel(0, 0, a, b, 4, false));
         Check.refused("10 has the reference", Check.STATE, () -> x.parcel(0, 999, a, b, 1, false));
         Check.due("10 refused ones are not told", x.scans(), 2);
+        x.van(1, 1, 0);
+        x.hour(20);
+        Check.due("10 a window of the whole day", x.hour(1), 1);
     }
 
     private static void parcelLimits() {
