@@ -1,3 +1,5 @@
+import java.util.List;
+
 /** What the tests share: an answer is compared, or the exception that is due is awaited. */
 final class Check {
     static final Class<?> INDEX = IndexOutOfBoundsException.class;
@@ -36,6 +38,15 @@ final class Check {
         }
         wrong++;
         System.out.println(what + " ended with " + got + ", due is " + want.getSimpleName());
+    }
+
+    /** Two pictures of one state. */
+    static void alike(String what, List<String> got, List<String> want) {
+        String difference = Picture.difference(got, want);
+        if (!difference.isEmpty()) {
+            wrong++;
+            System.out.println(what + ": " + difference);
+        }
     }
 
     static void end() {

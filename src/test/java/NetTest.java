@@ -122,8 +122,7 @@ public final class NetTest {
     }
 
     private static void failFull() {
-        Ropewalk x = new Ropewalk();
-        fill(x);
+        Ropewalk x = Scenes.scanned(399);
         Check.due("4 one is left", x.scans(), 399);
         x.fail(0, 2, true);
         x.find(0, 0);
@@ -137,18 +136,6 @@ public final class NetTest {
         x.lose(0);
         x.find(0, 0);
         Check.due("4 a blind depot counts them", x.fail(0, 0, false), 2);
-    }
-
-    /** One parcel, LOST, with 399 scans that were noted. */
-    private static void fill(Ropewalk x) {
-        int a = x.address(0, 0);
-        x.parcel(0, 0, a, a, 1, false);
-        for (int i = 0; i < 199; i++) {
-            x.lose(0);
-            x.fail(0, 1, true);
-            x.find(0, 0);
-        }
-        x.lose(0);
     }
 
     private static void lane() {
