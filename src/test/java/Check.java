@@ -31,13 +31,21 @@ final class Check {
         try {
             got = "the answer " + call.run();
         } catch (RuntimeException e) {
-            if (e.getClass() == want && e.getMessage() == null) {
+            if (e.getClass() == want && isThrownByClass(e)) {
                 return;
             }
-            got = e.toString();
+            got = isThrownByClass(e) ? e.toString() : "thrown by the machine: " + e;
         }
         wrong++;
         System.out.println(what + " ended with " + got + ", due is " + want.getSimpleName());
+    }
+
+    /** Thrown by a throw statement of the class: what the Java machine's library throws comes from there. */
+    static boolean isThrownByClass(RuntimeException e) {
+        StackTraceElement[] trace = e.getStackTrace();
+        Class<?> type = e.getClass();
+        boolean isNamed = type == INDEX || type == ARGUMENT || type == STATE;
+        return isNamed && trace.length > 0 && trace[0].getClassName().startsWith("Ropewalk");
     }
 
     /** Two pictures of one state. */

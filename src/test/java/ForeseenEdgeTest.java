@@ -7,9 +7,11 @@ public final class ForeseenEdgeTest {
         halves();
         departures();
         fromRow();
+        fromRowAndBack();
         onTheWay();
         roomEverywhere();
         noLoadNobodyAhead();
+        lastOfForty();
         customs();
         doubts();
         noneAtOnce();
@@ -167,6 +169,24 @@ public final class ForeseenEdgeTest {
         Check.due("44 by the lane of the row, whatever the plan tells now", x.foreseen(0), 12);
     }
 
+    /** In the row it is resolved to be for the depot where it is: it goes all the same, and comes back. */
+    private static void fromRowAndBack() {
+        Ropewalk x = Scenes.pair(false);
+        x.timetable(0, 1, 5, 1, 1, 1);
+        x.van(0, 1, 11);
+        x.van(0, 1, 10);
+        x.parcel(0, 0, 0, 2, 1, false);
+        x.doubt(0, 1);
+        x.hour(1);
+        Check.due("17 the depot where it is", x.resolve(0, true), 0);
+        Check.due("17 only one that is HELD is UNSORTED then", x.where(0), Ropewalk.ROW);
+        Check.due("31 its place in the row stays", x.place(0), 0);
+        Check.due("44 left at 5, at the other end at 8, back at 11", x.foreseen(0), 11);
+        Scenes.at(x, 10);
+        Check.due("44 on its way back", x.foreseen(0), 11);
+        Check.due("44 it comes so", x.hour(1), 1);
+    }
+
     private static void onTheWay() {
         Ropewalk x = Scenes.pair(false);
         x.van(1, 1, 4);
@@ -219,6 +239,17 @@ public final class ForeseenEdgeTest {
         x.hour(2);
         Check.due("44 a trailer waits", x.waits(0), 0);
         Check.due("44 but what is asked is the first departure that is due, at 50", x.foreseen(0), 53);
+    }
+
+    private static void lastOfForty() {
+        Ropewalk x = Scenes.pair(false);
+        x.van(1, 1, 4);
+        for (int i = 0; i < 40; i++) {
+            x.parcel(0, i, 0, 2, 1, i < 39);
+        }
+        Check.due("44 no parcel ahead, though 39 are", x.foreseen(39), 4);
+        x.hour(1);
+        Check.due("44 UNSORTED behind many", x.foreseen(39), 28);
     }
 
     private static int overBorder(boolean crosses, int value, boolean isPaid) {

@@ -11,8 +11,11 @@ public final class HourEdgeTest {
         depotsByNumbers();
         expressFirst();
         inVain();
+        allCount();
+        planOfTheHour();
         rowOfTwenty();
         rowHasRoomAgain();
+        fullRowForAll();
         halves();
         firstDeparture();
         everySoManyHours();
@@ -21,6 +24,7 @@ public final class HourEdgeTest {
         patience();
         emptyRow();
         room();
+        restOfRow();
         lanesLeaveByNumbers();
         severalTrailers();
         midnight();
@@ -236,6 +240,51 @@ public final class HourEdgeTest {
         }
     }
 
+    /** Those that come into a row, that are READY and that are HELD count among as many as the depot can. */
+    private static void allCount() {
+        for (int many = 0; many < 7; many++) {
+            Ropewalk x = Scenes.pair(false);
+            x.timetable(0, 20, 100, 1, 1, 0);
+            for (int i = 0; i < 6; i++) {
+                x.parcel(0, i, 0, i % 3 == 0 ? 2 : 1, 1, false);
+                if (i % 3 == 1) {
+                    x.doubt(i, 3);
+                }
+            }
+            x.sorts(0, many);
+            x.hour(1);
+            Check.due("16 step 3: in a row, of " + many, x.count(Ropewalk.ROW), (many + 2) / 3);
+            Check.due("16 step 3: HELD, of " + many, x.count(Ropewalk.HELD), (many + 1) / 3);
+            Check.due("16 step 3: READY, of " + many, x.count(Ropewalk.READY), many / 3);
+            Check.due("16 step 3: not sorted yet, of " + many, x.count(Ropewalk.UNSORTED), 6 - many);
+            for (int i = 0; i < 6; i++) {
+                int parcel = i;
+                if (i < many) {
+                    Check.refused("Terms: sorted, not fresh, " + i + " of " + many, Check.STATE, () -> x.worth(parcel, 1, 1));
+                } else {
+                    Check.due("Terms: fresh, " + i + " of " + many, x.worth(i, 1, 1), 1);
+                    Check.due("16 step 3: its place, " + i + " of " + many, x.place(i), i - many);
+                }
+            }
+        }
+    }
+
+    /** The plan tells none for this half: no lane is taken, though one leads there, and the other half has one. */
+    private static void planOfTheHour() {
+        for (int half = 0; half < 2; half++) {
+            Ropewalk x = Scenes.at(Scenes.pair(false), half == 0 ? 0 : 12);
+            x.plan(0, 1, half, Ropewalk.NONE);
+            x.parcel(0, 0, 0, 2, 1, false);
+            x.hour(1);
+            Check.due("16 step 3: the plan tells none, half " + half, x.where(0), Ropewalk.UNSORTED);
+            Check.due("16 step 3: at its depot still, half " + half, x.at(0), 0);
+            Scenes.at(x, half == 0 ? 11 : 23);
+            Check.due("16 step 3: till the half ends, half " + half, x.where(0), Ropewalk.UNSORTED);
+            x.hour(1);
+            Check.due("16 step 3: the other half's lane, half " + half, x.where(0), Ropewalk.LANE);
+        }
+    }
+
     /** The lane 0 leaves at 100, so that its row fills. */
     private static Ropewalk rowOf(int parcels) {
         Ropewalk x = Scenes.pair(false);
@@ -287,6 +336,20 @@ public final class HourEdgeTest {
         Check.due("16 step 3: the row was full by then", x.where(21), Ropewalk.UNSORTED);
         x.hour(1);
         Check.due("16 step 3: the row is empty, so there is room", x.onLane(0), 21);
+    }
+
+    /** A full row is full for express ones too, and the lane of the other half is not taken in place of it. */
+    private static void fullRowForAll() {
+        Ropewalk x = rowOf(20);
+        x.lane(0, 1, 1, false);
+        x.plan(0, 1, 1, 2);
+        x.hour(1);
+        x.parcel(0, 20, 0, 2, 1, true);
+        x.parcel(0, 21, 0, 2, 1, false);
+        x.hour(1);
+        Check.due("16 step 3: full for an express one", x.where(20), Ropewalk.UNSORTED);
+        Check.due("16 step 3: full for another one", x.where(21), Ropewalk.UNSORTED);
+        Check.due("16 step 3: twenty still", x.count(Ropewalk.ROW), 20);
     }
 
     /** The lane 0 is that of the first half, the lane 1 of the second. */
@@ -437,6 +500,37 @@ public final class HourEdgeTest {
             Check.due("16 step 4: the others stay", x.count(Ropewalk.ROW), c[1] - c[2]);
             Check.due("16 step 4: no trailer waits for them", x.waits(0), Ropewalk.NONE);
         }
+    }
+
+    /** Those that a trailer leaves behind keep their order; a place is told by that, express or not. */
+    private static void restOfRow() {
+        Ropewalk x = Scenes.pair(false);
+        x.timetable(0, 1, 6, 1, 1, 0);
+        for (int i = 0; i < 5; i++) {
+            x.parcel(0, i, 0, 2, 1, i > 2);
+            x.hour(1);
+            Check.due("31 behind others in the row, express or not " + i, x.place(i), i);
+        }
+        x.hour(1);
+        Check.due("16 step 4: the first express one left", x.where(3), Ropewalk.LANE);
+        int[] places = {0, 1, 2, Ropewalk.NONE, 3};
+        for (int i = 0; i < 5; i++) {
+            Check.due("31 the others keep their order " + i, x.place(i), places[i]);
+        }
+        int[] order = {4, 0, 1, 2};
+        for (int parcel : order) {
+            x.hour(1);
+            Check.due("16 step 4: then one an hour, " + parcel, x.scan(x.scans() - 1, 0), parcel);
+            Check.due("31 it has no place, " + parcel, x.place(parcel), Ropewalk.NONE);
+        }
+        Ropewalk y = Scenes.pair(false);
+        y.timetable(0, 1, 2, 48, 2, 24);
+        y.parcel(0, 0, 0, 2, 1, false);
+        y.hour(3);
+        y.timetable(0, 1, 2, 48, 1, 24);
+        Check.due("32 it waits still, until the next hour", y.waits(0), 1);
+        y.hour(1);
+        Check.due("32 it has left", y.waits(0), Ropewalk.NONE);
     }
 
     private static void lanesLeaveByNumbers() {

@@ -1,19 +1,28 @@
 import java.util.ArrayList;
 import java.util.List;
 
-/** Long runs of calls, by a fixed row of numbers: the class and the Model must answer alike. */
+/**
+ * Long runs of calls, by a fixed row of numbers: the class and the Model must answer alike. What an object answers
+ * behind its 512th call is free: when one has been called so often, a fresh one is told the run again and asked on.
+ */
 public final class ModelTest {
     private interface Call {
         Object run();
     }
 
-    private static final int RUNS = 120;
-    private static final int CALLS = 512;
+    private static final int RUNS = 400;
+    /** So many calls of a run change something, so that some are left of the 512 to ask. */
+    private static final int CALLS = 400;
+    private static final int MOST_CALLS = 512;
+    private static final int CALLS_BETWEEN = 12;
 
     private long seed;
     private Ropewalk x;
     private Model m;
+    private int used = 0;
+    private int style;
     private final List<String> told = new ArrayList<>();
+    private final List<Call> calls = new ArrayList<>();
     private static final int[] seen = new int[64];
 
     public static void main(String[] args) {
@@ -51,6 +60,11 @@ public final class ModelTest {
         return size == 0 ? 0 : next(size);
     }
 
+    /** In the runs of the style 0 most of what happens is between two depots. */
+    private int depot() {
+        return style == 0 && maybe(90) ? next(2) : of(5);
+    }
+
     /** A number in the range, often at its ends, now and then outside. */
     private int in(int a, int b) {
         if (maybe(2)) {
@@ -64,14 +78,15 @@ public final class ModelTest {
 
     /** A call that may change something: it is told again when the run fails. */
     private boolean same(String what, Call a, Call b) {
-        Object got = ended(a, true);
+        Object got = called(a);
         Object want = ended(b, false);
         told.add(what + " = " + want);
+        calls.add(a);
         return isSame("", got, want);
     }
 
     private boolean asked(String what, int n, int k, Call a, Call b) {
-        Object got = ended(a, true);
+        Object got = called(a);
         Object want = ended(b, false);
         return got.equals(want) || isSame(what + "(" + n + ", " + k + ") = " + want, got, want);
     }
@@ -88,13 +103,23 @@ public final class ModelTest {
         return false;
     }
 
+    private Object called(Call call) {
+        if (used >= MOST_CALLS) {
+            x = new Ropewalk();
+            for (Call again : calls) {
+                ended(again, false);
+            }
+            used = calls.size();
+        }
+        used++;
+        return ended(call, true);
+    }
+
     private static Object ended(Call call, boolean isChecked) {
         try {
             return call.run();
         } catch (RuntimeException e) {
-            // What the Java machine throws, or its library, bears a text or comes from elsewhere.
-            boolean isOwn = e.getMessage() == null && e.getStackTrace()[0].getClassName().equals("Ropewalk");
-            return isChecked && !isOwn ? "thrown by the machine: " + e : e.getClass();
+            return isChecked && !Check.isThrownByClass(e) ? "thrown by the machine: " + e : e.getClass();
         }
     }
 
@@ -103,12 +128,13 @@ public final class ModelTest {
         next(2);
         x = new Ropewalk();
         m = new Model();
-        int style = number % 4;
-        boolean isFine = setUp(style);
-        for (int i = told.size(); isFine && i < CALLS; i++) {
-            isFine = any(style) && alike(i % 16 == 0);
+        style = number % 4;
+        boolean isFine = setUp();
+        while (isFine && calls.size() < CALLS) {
+            int before = calls.size();
+            isFine = any() && (before % CALLS_BETWEEN > 0 || alike(before % (4 * CALLS_BETWEEN) == 0));
         }
-        if (!isFine) {
+        if (!isFine || !alike(true)) {
             System.out.println("in the run " + number);
             return false;
         }
@@ -128,10 +154,10 @@ public final class ModelTest {
         seen[23] += m.scans.size() == 400 ? 1 : 0;
     }
 
-    private boolean setUp(int style) {
+    private boolean setUp() {
         boolean isFine = true;
         for (int i = 0; isFine && i < 12; i++) {
-            isFine = lane() && (i % 2 == 0 || timetable(style));
+            isFine = lane() && (i % 2 == 0 || timetable());
         }
         for (int i = 0; isFine && i < 60; i++) {
             isFine = plan();
@@ -140,7 +166,7 @@ public final class ModelTest {
             isFine = van() && locker() && sorts();
         }
         for (int i = 0; isFine && i < 12; i++) {
-            isFine = address(style) && (maybe(50) || away());
+            isFine = address() && (maybe(50) || away());
         }
         for (int i = 0; isFine && i < 12; i++) {
             isFine = parcel() && (maybe(50) || worth()) && (maybe(50) || doubt());
@@ -148,16 +174,16 @@ public final class ModelTest {
         return isFine && alike(true);
     }
 
-    private boolean tell(int style) {
+    private boolean tell() {
         switch (next(7)) {
             case 0:
                 return lane();
             case 1:
                 return plan();
             case 2:
-                return timetable(style);
+                return timetable();
             case 3:
-                return address(style);
+                return address();
             case 4:
                 return van();
             case 5:
@@ -167,10 +193,14 @@ public final class ModelTest {
         }
     }
 
-    private boolean any(int style) {
+    private boolean any() {
+        // The runs of the style 3 stammer, so that their books are full at last.
+        if (style == 3 && maybe(10)) {
+            return fail();
+        }
         int k = next(100);
         if (k < 30) {
-            return hour(style);
+            return hour();
         }
         if (k < 42) {
             return parcel();
@@ -185,13 +215,13 @@ public final class ModelTest {
             return doubt();
         }
         if (k < 62) {
-            return tell(style);
+            return tell();
         }
         if (k < 64) {
             return maybe(50) ? hire() : fail();
         }
         if (k < 66) {
-            return timetable(style);
+            return timetable();
         }
         if (k < 68) {
             return plan();
@@ -222,7 +252,7 @@ public final class ModelTest {
             return same("lose(" + n + ")", () -> x.lose(n), () -> m.lose(n));
         }
         if (k < 90) {
-            int d = of(5);
+            int d = depot();
             int lost = maybe(80) ? someLost(n) : n;
             return same("find(" + lost + ", " + d + ")", () -> x.find(lost, d), () -> m.find(lost, d));
         }
@@ -262,40 +292,40 @@ public final class ModelTest {
         return same("fetch(" + at + ", " + by + ")", () -> x.fetch(at, by), () -> m.fetch(at, by));
     }
 
-    private boolean hour(int style) {
+    private boolean hour() {
         int h = maybe(style * 10) ? in(1, 24) : in(1, 4);
         return same("hour(" + h + ")", () -> x.hour(h), () -> m.hour(h));
     }
 
     private boolean sorts() {
-        int d = of(5);
+        int d = depot();
         int k = maybe(50) ? in(0, 40) : in(0, 4);
         return same("sorts(" + d + ", " + k + ")", () -> x.sorts(d, k), () -> m.sorts(d, k));
     }
 
     private boolean hire() {
-        int d = of(5);
+        int d = depot();
         int k = in(1, 20);
         int h = in(1, 48);
         return same("hire(" + d + ", " + k + ", " + h + ")", () -> x.hire(d, k, h), () -> m.hire(d, k, h));
     }
 
     private boolean fail() {
-        int d = of(5);
+        int d = depot();
         int k = in(0, 20);
-        boolean is = maybe(50);
+        boolean is = maybe(style == 3 ? 95 : 50);
         return same("fail(" + d + ", " + k + ", " + is + ")", () -> x.fail(d, k, is), () -> m.fail(d, k, is));
     }
 
     private boolean lane() {
-        int a = of(5);
-        int b = maybe(80) ? (a + 1 + next(4)) % 5 : of(5);
+        int a = depot();
+        int b = style == 0 && maybe(90) ? 1 - a : maybe(80) ? (a + 1 + next(4)) % 5 : of(5);
         int h = maybe(60) ? in(1, 4) : in(1, 24);
         boolean is = maybe(30);
         return same("lane(" + a + ", " + b + ", " + h + ", " + is + ")", () -> x.lane(a, b, h, is), () -> m.lane(a, b, h, is));
     }
 
-    private boolean timetable(int style) {
+    private boolean timetable() {
         int l = of(m.lanes.size());
         int room = maybe(50) ? in(1, 3) : in(1, 20);
         int first = maybe(50) ? in(0, 10) : in(0, 100);
@@ -315,8 +345,8 @@ public final class ModelTest {
         return same("plan(" + d + ", " + target + ", " + half + ", " + l + ")", () -> x.plan(d, target, half, l), () -> m.plan(d, target, half, l));
     }
 
-    private boolean address(int style) {
-        int d = style == 0 ? of(2) : of(5);
+    private boolean address() {
+        int d = depot();
         int spot = maybe(40) ? in(0, 10) : in(0, 60);
         return same("address(" + d + ", " + spot + ")", () -> x.address(d, spot), () -> m.address(d, spot));
     }
@@ -367,14 +397,14 @@ public final class ModelTest {
     }
 
     private boolean van() {
-        int d = of(5);
+        int d = depot();
         int room = in(1, 30);
         int start = in(0, 23);
         return same("van(" + d + ", " + room + ", " + start + ")", () -> x.van(d, room, start), () -> m.van(d, room, start));
     }
 
     private boolean locker() {
-        int d = of(5);
+        int d = depot();
         int a = in(0, 2);
         int b = in(0, 2);
         int c = in(0, 5);

@@ -2,12 +2,14 @@
 public final class RoundEdgeTest {
     public static void main(String[] args) {
         vansByNumbers();
+        vanBehindVan();
         ownDepot();
         fits();
         order();
         steps();
         spotZero();
         fiveMinutes();
+        fiveMinutesBehindWindow();
         waitsForWindow();
         endOfWindow();
         behindMidnight();
@@ -49,6 +51,21 @@ public final class RoundEdgeTest {
         Check.due("16 step 5: the next van the next one", x.at(1), 1);
         Check.due("16 step 5: the last one stays", x.where(2), Ropewalk.READY);
         Check.due("34 one each", x.onVan(0) + x.onVan(1), 2);
+    }
+
+    /** At 6 one van comes back with a parcel that failed, and one starts: it takes it if its number is the higher one. */
+    private static void vanBehindVan() {
+        for (int first = 5; first < 7; first++) {
+            Ropewalk x = depot(30);
+            x.away(0, 0, 24);
+            x.van(0, 9, first);
+            x.van(0, 9, 11 - first);
+            x.parcel(0, 0, 0, 0, 1, false);
+            x.hour(6);
+            Check.due("16 step 5: it failed once, the lower van starts at " + first, x.part(0, 2), 1);
+            int due = first == 5 ? Ropewalk.VAN : Ropewalk.READY;
+            Check.due("16 step 5: a van ends and begins ahead of the next one, the lower starts at " + first, x.where(0), due);
+        }
     }
 
     private static void ownDepot() {
@@ -158,6 +175,19 @@ public final class RoundEdgeTest {
         Check.due("16 it stays on the van", x.where(0), Ropewalk.VAN);
         Check.due("16 at the minute 60, whatever came of the first one", x.hour(1), 1);
         Check.due("16 READY behind the last stop", x.where(0), Ropewalk.READY);
+    }
+
+    /** The first one's window has ended by the start; its stop takes its minutes all the same. */
+    private static void fiveMinutesBehindWindow() {
+        Ropewalk x = depot(25);
+        x.van(0, 30, 5);
+        for (int i = 0; i < 3; i++) {
+            x.parcel(0, i, 0, 0, 1, false);
+        }
+        x.promise(0, 0, 5, 100);
+        Check.due("16 at the minute 55, behind one that failed", x.hour(5), 1);
+        Check.due("16 behind its window it failed", x.part(0, 2), 1);
+        Check.due("16 at the minute 60", x.hour(1), 1);
     }
 
     private static Ropewalk withWindow(int spot, int start, int from, int to) {
