@@ -9,6 +9,8 @@ import java.util.ArrayList;
 import java.util.Collections;
 import java.util.List;
 import java.util.TreeSet;
+import java.util.regex.Matcher;
+import java.util.regex.Pattern;
 
 /** The class shows the document's face and nothing more, and keeps to the rules that can be seen from outside. */
 public final class FaceTest {
@@ -67,6 +69,12 @@ public final class FaceTest {
         "TAKEN=0", "SORTED=1", "LEFT=2", "CAME=3", "OUT=4", "GIVEN=5", "FAILED=6", "STORED=7", "FETCHED=8", "BACK=9",
         "GONE=0", "LATE=1",
     };
+
+    private static final Pattern OF_LIBRARY = Pattern.compile("\\b(Math|Integer|Long|Arrays)\\.(\\w+)");
+    private static final List<String> LIBRARY = List.of("Math.abs", "Math.max", "Math.min", "Math.floorMod", "Math.floorDiv",
+        "Integer.compare", "Long.compare", "Integer.bitCount", "Arrays.fill", "Arrays.copyOf", "Arrays.copyOfRange");
+    private static final Pattern THROWN = Pattern.compile("\\bthrow\\b(.*)");
+    private static final String THROWS = " new (" + I + "|" + A + "|" + S + ")\\((\"[^\"]*\")?\\);";
 
     private static int wrong = 0;
 
@@ -170,6 +178,12 @@ public final class FaceTest {
             String line = lines.get(i);
             for (String word : words) {
                 check("without " + word.trim() + ": " + line, !line.contains(word));
+            }
+            for (Matcher m = OF_LIBRARY.matcher(line); m.find();) {
+                check("of the library: " + line, LIBRARY.contains(m.group()));
+            }
+            for (Matcher m = THROWN.matcher(line); m.find();) {
+                check("what the document throws: " + line, m.group(1).matches(THROWS));
             }
             check("imports ArrayList alone: " + line, !line.startsWith("import ") || line.equals("import java.util.ArrayList;"));
             if (line.isEmpty()) {
